@@ -816,7 +816,7 @@ public final class ArcRings {
             int u = 2 * board.xs[dot] - centreX;
             int v = 2 * board.ys[dot] - centreY;
             int even = v > 0 ? (u > 0 ? 0 : 2) : (u < 0 ? 4 : 6);
-            return Math.abs(v) > Math.abs(u) ? even + 1 : even;
+            return v * v > u * u ? even + 1 : even;
         }
 
         int span(int bits) {
@@ -1085,13 +1085,13 @@ public final class ArcRings {
             return weakest;
         }
 
+        /** Whose the DOTS are is told off anew behind this. */
         void giveUp(int ring) {
             if (!has(ring)) {
                 return;
             }
             for (int i = ring; i + 1 < size; i++) {
                 keys[i] = keys[i + 1];
-                own[i] = own[i + 1];
             }
             size--;
         }

@@ -369,6 +369,9 @@ public final class PromiseTest {
         ArcRings z = of("4x4:");
         due("strew(3, 14): the second lies where the first does", 2, z.strew(3, 14));
         textDue("4x4:003304", z);
+        ArcRings zero = of("4x4:");
+        due("strew(1, 0)", 1, zero.strew(1, 0));
+        textDue("4x4:007", zero);
         due("strew(0, 0)", OUTSIDE, z.strew(0, 0));
         due("strew(15, 0)", OUTSIDE, z.strew(15, 0));
         due("strew(1, -1)", OUTSIDE, z.strew(1, -1));

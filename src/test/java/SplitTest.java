@@ -25,6 +25,9 @@ public final class SplitTest {
         "22x7:b21067l13l6460130-e6135-23583-c01e10f34g32 1 11 3 2 1 6 4",
         "9x12:85-88-29-3b-26-7b-62-30-70-31-15-87-74-89- 1 21 0 4 2 3 1",
         "28x30:5f1jb5rh34h79932m1b22fm6j14nt-r84eh-lo5cc0 1 13 2 2 1 5 3",
+        // of two with too few the one with fewest goes first, though its number is the lesser one
+        "31x9:o56j63i23680h14c1-s0-31-q1-23-n14351n35824 1 9 3 3 2 4 3",
+        "24x12:k53556n5-e51246d20c4-00-hb5677f93h147b6h01 1 14 4 3 1 4 3",
         // of several with fewest the one of the greatest number goes first
         "15x17:58-ed43d777152-c6-d50c93661e9-7g-c706e61f0 1 18 0 2 1 5 4",
         "9x6:80205-45122410-40225175104512244142223470- 1 9 3 2 1 4 3",
