@@ -2,14 +2,26 @@
 final class Checks {
     private int wrong;
     private int asked;
+    private int sentences;
+    private String words = "";
+
+    /** The words of the document that the checks behind this hold the class against, with their promise's number. */
+    void sentence(String promiseAndWords) {
+        sentences++;
+        words = "[" + promiseAndWords + "] ";
+    }
 
     void due(String call, long want, long got) {
         asked++;
         if (got != want) {
-            wrong++;
-            if (wrong <= 40) {
-                System.out.println(call + " answered " + got + ", due is " + want);
-            }
+            tellWrong(call + " answered " + got + ", due is " + want);
+        }
+    }
+
+    void same(String what, String want, String got) {
+        asked++;
+        if (!got.equals(want)) {
+            tellWrong(what + " is " + got + ", due is " + want);
         }
     }
 
@@ -17,12 +29,20 @@ final class Checks {
         due(what, 1, is ? 1 : 0);
     }
 
+    private void tellWrong(String what) {
+        wrong++;
+        if (wrong <= 40) {
+            System.out.println(words + what);
+        }
+    }
+
     int wrong() {
         return wrong;
     }
 
     void end() {
-        System.out.println(asked + " answers looked at, " + wrong + " not as due");
+        String held = sentences == 0 ? "" : sentences + " sentences, ";
+        System.out.println(held + asked + " answers looked at, " + wrong + " not as due");
         if (wrong != 0) {
             System.exit(1);
         }
