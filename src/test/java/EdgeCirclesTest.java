@@ -4,8 +4,6 @@ public final class EdgeCirclesTest {
     private static final int[] FAR_OFF = {Integer.MIN_VALUE, -65536, -257, -256, -32, 32, 256, 257, 65536, Integer.MAX_VALUE};
     /** From the CENTRE, doubled: one DOT in each OCTANT, in the order of these, all 11.4 off. */
     private static final int[][] AROUND = {{11, 3}, {3, 11}, {-11, 3}, {-3, 11}, {-11, -3}, {-3, -11}, {11, -3}, {3, -11}};
-    /** 14 DOTS at the same distance from 15, 15: all of their threes have one CIRCLE. */
-    private static final String ROUND_ABOUT = "31x31:ng-ne-7g-7e-mj-mb-8j-8b-gn-en-g7-e7-jm-bm-";
     /** All of the threes of its 14 DOTS VOTE, for 200 SPOTS. */
     private static final String ALL_VOTE = "31x31:f5-ob-a4-l8-sk-74-qe-26-rp-or-3g-1a-6k-lr-";
 
@@ -391,7 +389,8 @@ public final class EdgeCirclesTest {
             for (int bits : new int[] {1 | 8 | 32, 2 | 4 | 64, 1 | 16 | 128}) {
                 ArcRings x = around(bits, beside[octant][0], beside[octant][1], NONE);
                 int place = placeOf(x, 15, 15, 5);
-                checks.due("SPAN of " + bits + " and one beside " + octant, Integer.bitCount(bits | 1 << octant), x.spot(place, 5));
+                int want = Integer.bitCount(bits | 1 << octant);
+                checks.due("SPAN of " + bits + " and one beside " + octant, want, x.spot(place, 5));
                 checks.due("DOTS of " + bits + " and one beside " + octant, 4, x.spot(place, 4));
             }
         }
@@ -445,7 +444,7 @@ public final class EdgeCirclesTest {
 
     private void circleOfTheOnesNamed() {
         checks.sentence("14: Of the CIRCLE of three DOTS (the first and the last of 14)");
-        ArcRings x = Sheets.of(ROUND_ABOUT);
+        ArcRings x = Sheets.of(Sheets.ROUND_ABOUT);
         checks.due("circle(0, 12, 13, 1)", 15, x.circle(0, 12, 13, 1));
         checks.due("circle(13, 0, 1, 2)", 15, x.circle(13, 0, 1, 2));
         checks.due("circle(12, 13, 0, 3)", 8, x.circle(12, 13, 0, 3));
@@ -529,7 +528,7 @@ public final class EdgeCirclesTest {
 
     private void votesOfAll() {
         checks.sentence("15: How many VOTE for a SPOT (all threes of 14 DOTS)");
-        ArcRings x = Sheets.of(ROUND_ABOUT);
+        ArcRings x = Sheets.of(Sheets.ROUND_ABOUT);
         checks.due("votes(15, 15, 8)", 364, x.votes(15, 15, 8));
         checks.same("SPOTS", "15,15,8*364", Sheets.spots(x));
         x.lift(0);
@@ -624,7 +623,7 @@ public final class EdgeCirclesTest {
 
     private void spotsOfAll() {
         checks.sentence("17: how many (all threes of 14 DOTS)");
-        totalsDue(Sheets.of(ROUND_ABOUT), "one CIRCLE", 1, 364, 364, 1);
+        totalsDue(Sheets.of(Sheets.ROUND_ABOUT), "one CIRCLE", 1, 364, 364, 1);
         ArcRings x = Sheets.of(ALL_VOTE, 1, 22);
         checks.due("spots(0)", 200, x.spots(0));
         checks.due("spots(1)", 364, x.spots(1));

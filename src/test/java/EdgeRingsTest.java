@@ -4,14 +4,9 @@ import java.util.function.Supplier;
 public final class EdgeRingsTest {
     private static final int NONE = Sheets.NONE, UNKNOWN = Sheets.UNKNOWN, OUTSIDE = Sheets.OUTSIDE, STATE = Sheets.STATE;
     private static final int[] FAR_OFF = {Integer.MIN_VALUE, -65536, -257, -256, -32, 32, 256, 257, 65536, Integer.MAX_VALUE};
-    /** 14 DOTS round 15, 15, which all SUPPORT one SPOT by a SLACK of 2. */
-    private static final String ROUND_ABOUT = "31x31:ng-ne-7g-7e-mj-mb-8j-8b-gn-en-g7-e7-jm-bm-";
     private static final int[] LOOSE = {1, 22, 0, 2, 1};
     /** Two RINGS; DOT 1 is as far from the line of each, DOT 3 SUPPORTS none. */
     private static final String TIED = "18x6:04-74-41-d4-72-81-";
-    /** Six RINGS are KEPT, three of them given up. */
-    private static final String SHRINKING = "15x21:8g5611e533j-e11ae59d068-9b7cj3bh3ai-d62ad7";
-    private static final int[] SHRINKING_BOUNDS = {1, 22, 1, 2, 1};
 
     private final Checks checks = new Checks();
 
@@ -37,6 +32,7 @@ public final class EdgeRingsTest {
         freeSupporters();
         freeSpan();
         tillThereIsNone();
+        fewerThanBefore();
         sevenRings();
         oneOfFourteen();
         allFreeAtFirst();
@@ -53,6 +49,7 @@ public final class EdgeRingsTest {
         splitGreatestNumber();
         splitAnew();
         splitManyTimes();
+        splitOfSeven();
     }
 
     /** So many DOTS of WHOLE, the last ones left away. */
@@ -158,6 +155,30 @@ public final class EdgeRingsTest {
         }
     }
 
+    private void fewerThanBefore() {
+        checks.sentence("terms 3: till there is no such SPOT (there were more of them ahead of a change)");
+        ArcRings x = Sheets.of(Sheets.WHOLE, 2, 12, 1, 2, 1);
+        checks.due("hunt()", 1, x.hunt());
+        x.bound(1, 4);
+        checks.due("hunt() when no RADIUS is fit", 0, x.hunt());
+        checks.due("spot(0, 0)", UNKNOWN, x.spot(0, 0));
+        x.bound(1, 12);
+        checks.due("hunt() as before", 1, x.hunt());
+        for (int left = 7; left >= 2; left--) {
+            x.lift(left);
+            checks.due("hunt() of " + left, left < 3 ? 0 : 1, x.hunt());
+        }
+        ArcRings many = Sheets.of(Sheets.SHRINKING, Sheets.SHRINKING_BOUNDS);
+        checks.due("hunt() of many", 6, many.hunt());
+        while (many.count(0) > 3) {
+            many.lift(3);
+        }
+        ArcRings few = Sheets.of(Sheets.SHRINKING.substring(0, 15), Sheets.SHRINKING_BOUNDS);
+        checks.due("hunt() of three", few.hunt(), many.hunt());
+        checks.same("RINGS of three", Sheets.rings(few), Sheets.rings(many));
+        checks.same("SPOTS of three", Sheets.spots(few), Sheets.spots(many));
+    }
+
     private void sevenRings() {
         checks.sentence("18: HUNT: how many RINGS (as many as 14 DOTS may have)");
         String[] texts = {"22x24:1721b7ai5h02ba01129347d7fc7e83fn58g0854ld6", "20x14:i65c62j22555fb59901c0a45g31f76624975c04101",
@@ -181,7 +202,7 @@ public final class EdgeRingsTest {
 
     private void oneOfFourteen() {
         checks.sentence("18: HUNT: how many RINGS (one with all 14 DOTS)");
-        ArcRings x = Sheets.of(ROUND_ABOUT, 8, 8, 2, 14, 8);
+        ArcRings x = Sheets.of(Sheets.ROUND_ABOUT, 8, 8, 2, 14, 8);
         checks.due("hunt() by NEED 14, ROUND 8", 1, x.hunt());
         checks.due("ring(0, 3)", 14, x.ring(0, 3));
         checks.due("ring(0, 4)", 16383, x.ring(0, 4));
@@ -194,7 +215,7 @@ public final class EdgeRingsTest {
 
     private void allFreeAtFirst() {
         checks.sentence("terms 3: HUNT: all DOTS are FREE at first, nothing is KEPT");
-        ArcRings x = Sheets.of(SHRINKING, SHRINKING_BOUNDS);
+        ArcRings x = Sheets.of(Sheets.SHRINKING, Sheets.SHRINKING_BOUNDS);
         checks.due("hunt()", 6, x.hunt());
         String kept = Sheets.rings(x);
         checks.due("hunt() again", 6, x.hunt());
@@ -298,7 +319,7 @@ public final class EdgeRingsTest {
         x.digest();
         checks.same("RINGS", rings, Sheets.rings(x));
         checks.due("split()", 2, x.split());
-        ArcRings full = Sheets.of(SHRINKING, SHRINKING_BOUNDS);
+        ArcRings full = Sheets.of(Sheets.SHRINKING, Sheets.SHRINKING_BOUNDS);
         full.hunt();
         checks.due("dot() on a full one", Sheets.FULL, full.dot(0, 20, 0));
         checks.due("arc() on a full one", 0, full.arc(4, 4, 1, 255));
@@ -356,7 +377,8 @@ public final class EdgeRingsTest {
         // the two that are left have 2 and 4 by a NEED of 2; the first one had 1
         splitDue("22x19:764i029b5653ch68945f6", LOOSE, "3,9,5:76 11,7,9:18 1,9,6:33", "11,7,9:18 1,9,6:105");
         // two by 3, which is NEED
-        splitDue("7x5:44-23-61-62-20-10-00-30-12-63-01-", new int[] {1, 16, 0, 3, 2}, "3,1,2:831 1,0,1:1216", "3,1,2:831 1,0,1:1216");
+        String both = "3,1,2:831 1,0,1:1216";
+        splitDue("7x5:44-23-61-62-20-10-00-30-12-63-01-", new int[] {1, 16, 0, 3, 2}, both, both);
     }
 
     private void splitFewest() {
@@ -383,16 +405,26 @@ public final class EdgeRingsTest {
 
     private void splitManyTimes() {
         checks.sentence("terms 3: till there is none such (three are given up)");
-        splitDue(SHRINKING, SHRINKING_BOUNDS,
+        splitDue(Sheets.SHRINKING, Sheets.SHRINKING_BOUNDS,
             "13,15,10:4236 6,12,4:33 12,4,7:258 14,10,9:2064 13,10,4:8256 7,20,4:1536", "6,12,4:161 13,10,4:12608 7,20,4:3592");
         splitDue("18x13:02-d8-22-f7-gb-43-ga-85-47-98-e2-6a-db-03-", new int[] {1, 20, 0, 4, 2},
             "9,5,5:3336 14,4,6:4752 5,11,10:8261", "5,11,10:8285");
-        ArcRings x = Sheets.of(SHRINKING, SHRINKING_BOUNDS);
+        ArcRings x = Sheets.of(Sheets.SHRINKING, Sheets.SHRINKING_BOUNDS);
         x.hunt();
         x.split();
         checks.due("ring(3, 0)", UNKNOWN, x.ring(3, 0));
         checks.due("as(3, 1)", UNKNOWN, x.as(3, 1));
         checks.due("cross(2, 3)", UNKNOWN, x.cross(2, 3));
+    }
+
+    private void splitOfSeven() {
+        checks.sentence("terms 3: is given up (of as many RINGS as there may be)");
+        splitDue("24x22:c81da4e733c1ki5ff4nf46d7di42338d27c2gb55e2", LOOSE,
+            "14,9,2:4097 11,11,5:132 17,12,6:80 5,20,8:2056 0,18,15:514 8,18,5:9216 4,10,11:288",
+            "11,11,5:132 17,12,6:80 5,20,8:2056 0,18,15:514 8,18,5:9216 4,10,11:4384");
+        splitDue("12x12:675751812694403b53372290b32914581683210110", LOOSE,
+            "4,8,2:192 4,8,1:2056 5,2,4:8193 5,3,4:4608 9,8,4:1026 5,5,5:36 3,11,11:272",
+            "4,8,2:192 4,8,1:2056 5,2,4:8193 5,3,4:4608 9,8,4:1026 3,11,11:276");
     }
 
     // ---- terms 3: KIND
@@ -547,18 +579,10 @@ public final class EdgeRingsTest {
         crossUnknown();
     }
 
-    /** DOTS at the four corners u, v (doubled, odd) of a CENTRE, each turned across to it. */
-    private static void four(ArcRings x, int cx, int cy, int u, int v) {
-        int[][] corners = {{1, 1}, {-1, 1}, {-1, -1}, {1, -1}};
-        for (int[] corner : corners) {
-            x.dot((2 * cx + 1 + corner[0] * u) / 2, (2 * cy + 1 + corner[1] * v) / 2, corner[0] > 0 ? 4 : 0);
-        }
-    }
-
     private void crossDue(int[] one, int[] other, int want) {
         ArcRings x = Sheets.of("31x31:", 1, 22, 0, 4, 4);
-        four(x, one[0], one[1], one[2], one[3]);
-        four(x, other[0], other[1], other[2], other[3]);
+        Sheets.four(x, one[0], one[1], one[2], one[3]);
+        Sheets.four(x, other[0], other[1], other[2], other[3]);
         checks.due("RINGS", 2, x.hunt());
         String where = Sheets.rings(x);
         checks.holds("they lie there: " + where, where.contains(one[0] + "," + one[1] + "," + one[4] + ":")
@@ -570,7 +594,8 @@ public final class EdgeRingsTest {
     private void crossOutside() {
         checks.sentence("22: their CENTRES are no farther apart than both radii together, each r and a half");
         // both of r 5: 11 together
-        int[][] apart = {{0, 10, 1}, {0, 11, 1}, {0, 12, 0}, {1, 11, 0}, {-1, 11, 0}, {4, 10, 1}, {5, 10, 0}, {2, 11, 0}, {-3, 10, 1}};
+        int[][] apart = {{0, 10, 1}, {0, 11, 1}, {0, 12, 0}, {1, 11, 0}, {-1, 11, 0}, {4, 10, 1}, {5, 10, 0}, {2, 11, 0},
+            {-3, 10, 1}};
         for (int[] way : apart) {
             crossDue(new int[] {12, 5, 11, 3, 5}, new int[] {12 + way[0], 5 + way[1], 11, 3, 5}, way[2]);
         }
@@ -658,12 +683,12 @@ public final class EdgeRingsTest {
         checks.sentence("23: 4 how often a SHEET was read, 5 how often DOTS were HUNTED, 6 .. given up by SPLITS, ever");
         ArcRings x = new ArcRings();
         for (int time = 1; time <= 3; time++) {
-            Sheets.type(x, SHRINKING);
+            Sheets.type(x, Sheets.SHRINKING);
             x.sheet();
             x.sheet();
             x.bound(1, 22);
             for (int what = 0; what < 5; what++) {
-                x.bound(what, SHRINKING_BOUNDS[what]);
+                x.bound(what, Sheets.SHRINKING_BOUNDS[what]);
             }
             x.hunt();
             x.split();
@@ -784,7 +809,7 @@ public final class EdgeRingsTest {
 
     private void digestWraps() {
         checks.sentence("24: 31 times h, and it (as longs, wrapping)");
-        String[] texts = {Sheets.WHOLE, TIED, SHRINKING, ROUND_ABOUT, Sheets.CROWDED,
+        String[] texts = {Sheets.WHOLE, TIED, Sheets.SHRINKING, Sheets.ROUND_ABOUT, Sheets.CROWDED,
             "31x31:f5-ob-a4-l8-sk-74-qe-26-rp-or-3g-1a-6k-lr-", "22x24:1721b7ai5h02ba01129347d7fc7e83fn58g0854ld6"};
         for (String text : texts) {
             Supplier<ArcRings> maker = () -> {
@@ -820,7 +845,7 @@ public final class EdgeRingsTest {
 
     private void digestChangesNothing() {
         checks.sentence("24: digest() tells and changes nothing");
-        ArcRings x = Sheets.of(SHRINKING, SHRINKING_BOUNDS);
+        ArcRings x = Sheets.of(Sheets.SHRINKING, Sheets.SHRINKING_BOUNDS);
         x.hunt();
         long first = x.digest();
         checks.due("digest() again", first, x.digest());

@@ -3,9 +3,6 @@ public final class PromiseTest {
     private static final int NONE = -1, UNKNOWN = -101, OUTSIDE = -102, STATE = -103, FULL = -104;
     private static final int[] FAR_OFF = {Integer.MIN_VALUE, -1000, 1000, Integer.MAX_VALUE};
 
-    /** Eight DOTS truly round the CENTRE 10.5, 10.5, one in each OCTANT, in the order of these. */
-    private static final String WHOLE = "31x31:gc-cg-9g-5c-59-95-c5-g9-";
-
     private final Checks checks = new Checks();
 
     public static void main(String[] args) {
@@ -63,42 +60,9 @@ public final class PromiseTest {
         checks.due(call, want, got);
     }
 
-    private static void type(ArcRings x, String text) {
-        for (int i = 0; i < text.length(); i++) {
-            x.letter(text.charAt(i));
-        }
-    }
-
-    private static ArcRings of(String text) {
-        ArcRings x = new ArcRings();
-        type(x, text);
-        if (x.sheet() < 0) {
-            throw new IllegalStateException("no SHEET: " + text);
-        }
-        return x;
-    }
-
     private void textDue(String want, ArcRings x) {
-        String got = textOf(x);
+        String got = Sheets.textOf(x);
         checks.holds("the text is " + got + ", due is " + want, got.equals(want));
-    }
-
-    private static String textOf(ArcRings x) {
-        StringBuilder text = new StringBuilder();
-        int code = x.ink(0);
-        while (code >= 0 && text.length() < 60) {
-            text.append((char) code);
-            code = x.ink(text.length());
-        }
-        return text.toString();
-    }
-
-    /** DOTS at the four corners u, v (doubled, odd) of a CENTRE, each turned across to it. */
-    private static void four(ArcRings x, int cx, int cy, int u, int v) {
-        int[][] corners = {{1, 1}, {-1, 1}, {-1, -1}, {1, -1}};
-        for (int[] corner : corners) {
-            x.dot((2 * cx + 1 + corner[0] * u) / 2, (2 * cy + 1 + corner[1] * v) / 2, corner[0] > 0 ? 4 : 0);
-        }
     }
 
     // 1
@@ -214,7 +178,7 @@ public final class PromiseTest {
 
     private void faultDue(String text, int want) {
         ArcRings x = new ArcRings();
-        type(x, text);
+        Sheets.type(x, text);
         due("fault() of " + text, want, x.fault());
         due("letters of " + text + " after fault()", text.length(), x.count(3));
     }
@@ -224,10 +188,10 @@ public final class PromiseTest {
         String[] none = {"", "4", "31", "4x", "4x4", "31x31", "4x4:0", "4x4:00", "4x4:00-0", "4x4:00-00-", "4x3:", "32x4:",
             "4x4:008", "4x4:40-", "4x4:04-", "4x4: "};
         for (String each : none) {
-            ArcRings x = of(WHOLE);
+            ArcRings x = Sheets.of(Sheets.WHOLE);
             x.bound(3, 5);
             x.hunt();
-            type(x, each);
+            Sheets.type(x, each);
             due("sheet() of " + each, STATE, x.sheet());
             due("letters left of " + each, each.length(), x.count(3));
             due("the old SHEET after " + each, 31, x.about(0));
@@ -235,13 +199,13 @@ public final class PromiseTest {
             due("the old RINGS after " + each, 1, x.count(1));
             due("SHEETS read after " + each, 1, x.count(4));
         }
-        ArcRings x = of(WHOLE);
+        ArcRings x = Sheets.of(Sheets.WHOLE);
         int[] other = {3, 7, 0, 2, 1};
         for (int what = 0; what < 5; what++) {
             x.bound(what, other[what]);
         }
         x.hunt();
-        type(x, "4x31:00-3u7");
+        Sheets.type(x, "4x31:00-3u7");
         due("sheet() of another", 2, x.sheet());
         int[] first = {4, 31, 2, 2, 12, 1, 4, 3};
         for (int what = 0; what < 8; what++) {
@@ -258,14 +222,14 @@ public final class PromiseTest {
         due("TURN of the last", 7, x.told(1, 2));
         due("TURN of the first", NONE, x.told(0, 2));
         due("sheet() of an empty page", STATE, x.sheet());
-        due("fourteen DOTS", 14, of("31x31:00-01-02-03-04-05-06-07-08-09-0a-0b-0c-0d-").count(0));
+        due("fourteen DOTS", 14, Sheets.of("31x31:00-01-02-03-04-05-06-07-08-09-0a-0b-0c-0d-").count(0));
     }
 
     // 6
     private void inks() {
-        String[] texts = {"4x4:", "9x10:", "10x9:", "31x31:uu7", "4x30:00-3t01n5", WHOLE};
+        String[] texts = {"4x4:", "9x10:", "10x9:", "31x31:uu7", "4x30:00-3t01n5", Sheets.WHOLE};
         for (String each : texts) {
-            ArcRings x = of(each);
+            ArcRings x = Sheets.of(each);
             for (int place = 0; place < each.length(); place++) {
                 due("ink(" + place + ") of " + each, each.charAt(place), x.ink(place));
             }
@@ -278,7 +242,7 @@ public final class PromiseTest {
 
     // 7
     private void dotComes() {
-        ArcRings x = of("12x11:");
+        ArcRings x = Sheets.of("12x11:");
         due("dot(11, 10, -1)", 0, x.dot(11, 10, -1));
         due("dot(0, 0, 7)", 1, x.dot(0, 0, 7));
         due("dot(12, 0, 0)", OUTSIDE, x.dot(12, 0, 0));
@@ -302,7 +266,7 @@ public final class PromiseTest {
 
     // 8
     private void dotGoes() {
-        ArcRings x = of("9x9:00-115221333");
+        ArcRings x = Sheets.of("9x9:00-115221333");
         due("lift(4)", UNKNOWN, x.lift(4));
         due("lift(-1)", UNKNOWN, x.lift(-1));
         due("lift(1)", 3, x.lift(1));
@@ -318,7 +282,7 @@ public final class PromiseTest {
 
     // 9
     private void arcs() {
-        ArcRings x = of("31x31:");
+        ArcRings x = Sheets.of("31x31:");
         due("arc(10, 10, 5, 255)", 8, x.arc(10, 10, 5, 255));
         textDue("31x31:5a0771a52d73fa4dd5af67d7", x);
         due("the same again", 0, x.arc(10, 10, 5, 255));
@@ -335,7 +299,7 @@ public final class PromiseTest {
         arcDue(1, 10, -31, 31, 64, "31x31:a06");
         arcDue(1, 10, 61, 31, 255, "31x31:au2");
         arcDue(0, -31, -31, 31, 255, "31x31:");
-        ArcRings y = of("4x31:");
+        ArcRings y = Sheets.of("4x31:");
         due("arc on a narrow one", 2, y.arc(2, 15, 6, 255));
         textDue("4x31:2922l6", y);
         int[][] wrong = {{-32, 0, 1, 0}, {63, 0, 1, 0}, {0, -32, 1, 0}, {0, 63, 1, 0}, {0, 0, 0, 0}, {0, 0, 32, 0},
@@ -347,7 +311,7 @@ public final class PromiseTest {
     }
 
     private void arcDue(int came, int x, int y, int r, int octants, String text) {
-        ArcRings rings = of("31x31:");
+        ArcRings rings = Sheets.of("31x31:");
         String call = "arc(" + x + ", " + y + ", " + r + ", " + octants + ")";
         due(call, came, rings.arc(x, y, r, octants));
         textDue(text, rings);
@@ -355,21 +319,21 @@ public final class PromiseTest {
 
     // 10
     private void strewn() {
-        ArcRings x = of("31x9:");
+        ArcRings x = Sheets.of("31x9:");
         due("strew(4, 77)", 4, x.strew(4, 77));
         textDue("31x9:s5484-156836", x);
         due("strew(4, 77) again", 0, x.strew(4, 77));
         due("strew(1, 2147483647)", 1, x.strew(1, 2147483647));
         textDue("31x9:s5484-156836q87", x);
-        ArcRings y = of("4x4:");
+        ArcRings y = Sheets.of("4x4:");
         due("strew(14, 4) on 16 places", 11, y.strew(14, 4));
         due("strew(14, 7)", 3, y.strew(14, 7));
         due("how many", 14, y.count(0));
         due("strew(14, 9)", 0, y.strew(14, 9));
-        ArcRings z = of("4x4:");
+        ArcRings z = Sheets.of("4x4:");
         due("strew(3, 14): the second lies where the first does", 2, z.strew(3, 14));
         textDue("4x4:003304", z);
-        ArcRings zero = of("4x4:");
+        ArcRings zero = Sheets.of("4x4:");
         due("strew(1, 0)", 1, zero.strew(1, 0));
         textDue("4x4:007", zero);
         due("strew(0, 0)", OUTSIDE, z.strew(0, 0));
@@ -381,7 +345,7 @@ public final class PromiseTest {
 
     // 11
     private void toldOfDots() {
-        ArcRings x = of(WHOLE);
+        ArcRings x = Sheets.of(Sheets.WHOLE);
         due("told(0, 0)", 16, x.told(0, 0));
         due("told(0, 1)", 12, x.told(0, 1));
         due("told(0, 2)", NONE, x.told(0, 2));
@@ -401,7 +365,7 @@ public final class PromiseTest {
 
     // 12
     private void aboutTheSheet() {
-        ArcRings x = of("5x30:00-");
+        ArcRings x = Sheets.of("5x30:00-");
         int[] want = {5, 30, 1, 2, 12, 1, 4, 3};
         for (int what = 0; what < 8; what++) {
             due("about(" + what + ")", want[what], x.about(what));
@@ -417,7 +381,7 @@ public final class PromiseTest {
         int[][] limits = {{1, 12}, {2, 22}, {0, 4}, {2, 14}, {1, 8}};
         int[] first = {2, 12, 1, 4, 3};
         for (int what = 0; what < 5; what++) {
-            ArcRings x = of("9x9:");
+            ArcRings x = Sheets.of("9x9:");
             due("bound below, " + what, OUTSIDE, x.bound(what, limits[what][0] - 1));
             due("bound above, " + what, OUTSIDE, x.bound(what, limits[what][1] + 1));
             for (int far : FAR_OFF) {
@@ -431,7 +395,7 @@ public final class PromiseTest {
                 due("other bound " + other, other == what ? limits[what][1] : first[other], x.about(3 + other));
             }
         }
-        ArcRings x = of("9x9:");
+        ArcRings x = Sheets.of("9x9:");
         due("bound(-1, 1)", OUTSIDE, x.bound(-1, 1));
         due("bound(5, 1)", OUTSIDE, x.bound(5, 1));
         due("HIGH 22", 12, x.bound(1, 22));
@@ -443,14 +407,14 @@ public final class PromiseTest {
 
     // 14
     private void circles() {
-        ArcRings x = of("31x31:00-40-04-06-23-");
+        ArcRings x = Sheets.of("31x31:00-40-04-06-23-");
         circleDue(x, "a right corner", new int[] {0, 1, 2}, new int[] {1, 2, 2, 2, 3});
         circleDue(x, "a MIDDLE beyond", new int[] {0, 4, 3}, new int[] {0, -2, 3, 3, 3});
-        ArcRings y = of("31x31:00-13-06-");
+        ArcRings y = Sheets.of("31x31:00-13-06-");
         circleDue(y, "a whole number below 0", new int[] {0, 1, 2}, new int[] {0, -4, 3, 5, 3});
-        ArcRings flat = of("31x31:00-f1-u1-i1-");
+        ArcRings flat = Sheets.of("31x31:00-f1-u1-i1-");
         circleDue(flat, "a wide one", new int[] {0, 1, 2}, new int[] {0, 22, -225, 225, 3});
-        ArcRings vast = of("31x31:00-un-da-");
+        ArcRings vast = Sheets.of("31x31:00-un-da-");
         circleDue(vast, "a vast one", new int[] {0, 1, 2}, new int[] {0, 4051, -5254, 6634, 3});
         due("on one line", STATE, flat.circle(1, 2, 3, 0));
         due("on one line, no such", OUTSIDE, flat.circle(1, 2, 3, 5));
@@ -476,7 +440,7 @@ public final class PromiseTest {
         int[][] ways = {{1, 0}, {1, 1}, {0, 1}, {-1, 1}, {-1, 0}, {-1, -1}, {0, -1}, {1, -1}};
         for (int way = 0; way < 8; way++) {
             for (int turn = -1; turn < 8; turn++) {
-                ArcRings x = of("31x31:");
+                ArcRings x = Sheets.of("31x31:");
                 x.dot(15 - 5 * ways[way][0], 15 - 5 * ways[way][1], turn);
                 int far = way % 2 == 0 ? 4 : 5;
                 // two more at the same distance, off the first one's line
@@ -498,7 +462,7 @@ public final class PromiseTest {
 
     // 15
     private void voting() {
-        ArcRings x = of(WHOLE);
+        ArcRings x = Sheets.of(Sheets.WHOLE);
         due("votes(10, 10, 5)", 56, x.votes(10, 10, 5));
         due("votes(10, 10, 4)", 0, x.votes(10, 10, 4));
         due("votes(10, 11, 5)", 0, x.votes(10, 11, 5));
@@ -527,7 +491,7 @@ public final class PromiseTest {
 
     /** By the one CIRCLE of a SHEET, whose MIDDLE lies there. */
     private void votesDue(String text, int cx, int cy, int want) {
-        ArcRings x = of(text);
+        ArcRings x = Sheets.of(text);
         due("cx of " + text, cx, x.circle(0, 1, 2, 1));
         due("cy of " + text, cy, x.circle(0, 1, 2, 2));
         due("whether it VOTES: " + text, want, x.circle(0, 1, 2, 0));
@@ -536,7 +500,7 @@ public final class PromiseTest {
 
     // 16
     private void spotsInOrder() {
-        ArcRings x = of(WHOLE);
+        ArcRings x = Sheets.of(Sheets.WHOLE);
         int[] want = {10, 10, 5, 56, 8, 8, 255};
         for (int what = 0; what < 7; what++) {
             due("spot(0, " + what + ")", want[what], x.spot(0, what));
@@ -552,7 +516,7 @@ public final class PromiseTest {
     }
 
     private void inOrder(String text) {
-        ArcRings x = of(text);
+        ArcRings x = Sheets.of(text);
         x.bound(0, 1);
         x.bound(1, 22);
         int many = x.spots(0);
@@ -574,7 +538,7 @@ public final class PromiseTest {
     }
 
     private void supporters() {
-        ArcRings x = of(WHOLE);
+        ArcRings x = Sheets.of(Sheets.WHOLE);
         // their distances from the CENTRE, doubled, squared: 50, 82, 170, 226, 290
         x.dot(13, 13, -1);
         x.dot(15, 10, -1);
@@ -595,7 +559,7 @@ public final class PromiseTest {
             due("how many by SLACK " + slack, Integer.bitCount(bits[slack]), x.spot(place, 4));
         }
         for (int turn = 0; turn < 8; turn++) {
-            ArcRings y = of(WHOLE);
+            ArcRings y = Sheets.of(Sheets.WHOLE);
             y.lift(0);
             y.dot(16, 12, turn);
             // the CENTRE is at -11, -3 from there: TURN 4 points nearly so, 5 by 29.7 degrees, 3 by 60.3
@@ -603,7 +567,7 @@ public final class PromiseTest {
             due("SPAN by TURN " + turn, turn == 4 || turn == 5 ? 8 : 7, y.spot(0, 5));
         }
         for (int gone = 0; gone < 8; gone++) {
-            ArcRings y = of(WHOLE);
+            ArcRings y = Sheets.of(Sheets.WHOLE);
             y.lift(gone);
             due("SPAN without " + gone, 7, y.spot(0, 5));
             due("bits without " + gone, 127, y.spot(0, 6));
@@ -612,19 +576,19 @@ public final class PromiseTest {
 
     // 17
     private void spotTotals() {
-        ArcRings x = of(WHOLE);
+        ArcRings x = Sheets.of(Sheets.WHOLE);
         int[] want = {1, 56, 56, 1};
         for (int what = 0; what < 4; what++) {
             due("spots(" + what + ")", want[what], x.spots(what));
         }
         due("spots(-1)", OUTSIDE, x.spots(-1));
         due("spots(4)", OUTSIDE, x.spots(4));
-        ArcRings empty = of("9x9:00-11-22-33-");
+        ArcRings empty = Sheets.of("9x9:00-11-22-33-");
         for (int what = 0; what < 4; what++) {
             due("spots(" + what + ") of a line", 0, empty.spots(what));
         }
         // round 3, 3 and round 13, 3, each by 3, a vote each
-        ArcRings two = of("31x31:a30d02g34030302634");
+        ArcRings two = Sheets.of("31x31:a30d02g34030302634");
         two.bound(1, 3);
         int[] each = {2, 2, 16, 2};
         for (int what = 0; what < 4; what++) {
@@ -636,7 +600,7 @@ public final class PromiseTest {
 
     // 18
     private void hunting() {
-        ArcRings x = of(WHOLE);
+        ArcRings x = Sheets.of(Sheets.WHOLE);
         due("hunt()", 1, x.hunt());
         due("count(5)", 1, x.count(5));
         due("hunt() again", 1, x.hunt());
@@ -653,13 +617,13 @@ public final class PromiseTest {
         due("hunt() by ROUND 8 of seven", 0, x.hunt());
         x.bound(4, 7);
         due("hunt() by ROUND 7 of seven", 1, x.hunt());
-        due("hunt() without DOTS", 0, of("4x4:").hunt());
+        due("hunt() without DOTS", 0, Sheets.of("4x4:").hunt());
     }
 
     /** The most DOTS times SPAN goes first, not the most VOTES; a DOT that was taken helps no other SPOT. */
     private void huntOrder() {
         for (int seed = 0; seed < 30; seed++) {
-            ArcRings x = of("20x20:");
+            ArcRings x = Sheets.of("20x20:");
             x.strew(14, seed);
             x.bound(0, 1);
             x.bound(3, 2);
@@ -695,7 +659,7 @@ public final class PromiseTest {
     }
 
     private void huntedIsGone() {
-        ArcRings x = of(WHOLE);
+        ArcRings x = Sheets.of(Sheets.WHOLE);
         String[] deeds = {"dot", "lift", "arc", "strew", "bound", "sheet"};
         for (int deed = 0; deed < deeds.length; deed++) {
             x.hunt();
@@ -706,7 +670,7 @@ public final class PromiseTest {
                 case 2: x.arc(2, 2, 2, 1); break;
                 case 3: x.strew(1, 5); break;
                 case 4: x.bound(2, 1); break;
-                default: type(x, "9x9:"); x.sheet(); break;
+                default: Sheets.type(x, "9x9:"); x.sheet(); break;
             }
             due("split() after " + deeds[deed], STATE, x.split());
             due("ring(0, 0) after " + deeds[deed], UNKNOWN, x.ring(0, 0));
@@ -715,7 +679,7 @@ public final class PromiseTest {
             due("count(1) after " + deeds[deed], 0, x.count(1));
             due("count(2) after " + deeds[deed], 0, x.count(2));
         }
-        ArcRings y = of(WHOLE);
+        ArcRings y = Sheets.of(Sheets.WHOLE);
         y.hunt();
         y.dot(16, 12, 0);
         y.dot(0, 0, 8);
@@ -735,7 +699,7 @@ public final class PromiseTest {
 
     // 19: more of it stands in SplitTest
     private void splitting() {
-        ArcRings x = of(WHOLE);
+        ArcRings x = Sheets.of(Sheets.WHOLE);
         due("split() unhunted", STATE, x.split());
         x.hunt();
         due("split()", 1, x.split());
@@ -746,7 +710,7 @@ public final class PromiseTest {
 
     // 20 and 21
     private void toldOfRings() {
-        ArcRings x = of(WHOLE);
+        ArcRings x = Sheets.of(Sheets.WHOLE);
         x.hunt();
         int[] want = {10, 10, 5, 8, 255, 8, 0};
         for (int what = 0; what < 7; what++) {
@@ -778,9 +742,9 @@ public final class PromiseTest {
     }
 
     private static ArcRings twoRings(int cx, int cy, int apart, int u, int v) {
-        ArcRings x = of("31x31:");
-        four(x, cx, cy, 11, 3);
-        four(x, cx, cy + apart, u, v);
+        ArcRings x = Sheets.of("31x31:");
+        Sheets.four(x, cx, cy, 11, 3);
+        Sheets.four(x, cx, cy + apart, u, v);
         x.bound(2, 0);
         x.bound(4, 4);
         x.hunt();
@@ -788,9 +752,9 @@ public final class PromiseTest {
     }
 
     private static ArcRings inner(int apart) {
-        ArcRings x = of("31x31:");
-        four(x, 15, 15, 19, 9);
-        four(x, 15, 15 + apart, 5, 3);
+        ArcRings x = Sheets.of("31x31:");
+        Sheets.four(x, 15, 15, 19, 9);
+        Sheets.four(x, 15, 15 + apart, 5, 3);
         x.bound(2, 0);
         x.bound(4, 4);
         x.hunt();
@@ -826,7 +790,7 @@ public final class PromiseTest {
 
     // 23
     private void counts() {
-        ArcRings x = of(WHOLE);
+        ArcRings x = Sheets.of(Sheets.WHOLE);
         x.dot(30, 30, 3);
         x.hunt();
         x.letter(65);
@@ -838,7 +802,7 @@ public final class PromiseTest {
         due("count(7)", OUTSIDE, x.count(7));
         due("count(-1)", OUTSIDE, x.count(-1));
         x.blank();
-        type(x, "4x4:11-");
+        Sheets.type(x, "4x4:11-");
         x.sheet();
         due("count(0) of another", 1, x.count(0));
         due("count(4) of another", 2, x.count(4));
@@ -848,12 +812,12 @@ public final class PromiseTest {
     private void digests() {
         ArcRings x = new ArcRings();
         due("digest() of a new one", mix(1559, 0, 0, 0, 0, 0, 0, 0), x.digest());
-        type(x, "4x");
+        Sheets.type(x, "4x");
         due("digest() with letters", mix(1559, '4', 'x', 0, 0, 0, 2, 0, 0, 0), x.digest());
         x.sheet();
         x.hunt();
         due("digest() after refusals", mix(1559, '4', 'x', 0, 0, 0, 2, 0, 0, 0), x.digest());
-        type(x, "5:");
+        Sheets.type(x, "5:");
         x.sheet();
         due("digest() of an empty SHEET", mix(1559, 4, 5, 0, 2, 12, 1, 4, 3, 0, 0, 0, 0, 0, 0, 0, 0, 1, 0, 0), x.digest());
         x.letter(126);
@@ -862,7 +826,7 @@ public final class PromiseTest {
         x.hunt();
         due("digest() with DOTS", mix(1559, 4, 5, 2, 2, 12, 1, 4, 3, 3, 4, 5, NONE, 0, 1, NONE, NONE,
             0, 0, 0, 0, 126, 2, 0, 0, 1, 1, 1, 0), x.digest());
-        ArcRings y = of("31x31:gc-5c-59-");
+        ArcRings y = Sheets.of("31x31:gc-5c-59-");
         y.bound(3, 3);
         y.hunt();
         y.letter(32);

@@ -7,8 +7,6 @@ import java.util.function.ToLongFunction;
 public final class RefusalTest {
     private static final int UNKNOWN = Sheets.UNKNOWN, OUTSIDE = Sheets.OUTSIDE, STATE = Sheets.STATE, FULL = Sheets.FULL;
     private static final int LEAST = Integer.MIN_VALUE, MOST = Integer.MAX_VALUE;
-    /** Six RINGS are KEPT, three of them given up by SPLIT. */
-    private static final String SHRINKING = "15x21:8g5611e533j-e11ae59d068-9b7cj3bh3ai-d62ad7";
 
     /** A call that is refused. */
     private static final class Row {
@@ -113,7 +111,7 @@ public final class RefusalTest {
 
     /** 14 DOTS, other bounds, RINGS of which some were given up, letters that are no SHEET. */
     private static ArcRings rich() {
-        ArcRings x = Sheets.of(SHRINKING, 1, 20, 1, 2, 1);
+        ArcRings x = Sheets.of(Sheets.SHRINKING, 1, 20, 1, 2, 1);
         x.hunt();
         x.split();
         Sheets.type(x, "9x9:00-1");
@@ -179,7 +177,8 @@ public final class RefusalTest {
     }
 
     private void circles() {
-        int[][] unknown = {{0, 0, 1}, {0, 1, 0}, {1, 0, 0}, {14, 0, 1}, {0, 14, 1}, {0, 1, 14}, {-1, 0, 1}, {0, -1, 1}, {0, 1, -1}};
+        int[][] unknown = {{0, 0, 1}, {0, 1, 0}, {1, 0, 0}, {14, 0, 1}, {0, 14, 1}, {0, 1, 14}, {-1, 0, 1}, {0, -1, 1},
+            {0, 1, -1}};
         for (int[] u : unknown) {
             refused(UNKNOWN, "circle(" + Sheets.words(u) + ", 5)", x -> x.circle(u[0], u[1], u[2], 5));
         }

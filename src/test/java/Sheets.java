@@ -6,6 +6,11 @@ final class Sheets {
     static final String WHOLE = "31x31:gc-cg-9g-5c-59-95-c5-g9-";
     /** As many DOTS as a SHEET may have, in one column. */
     static final String CROWDED = "31x31:00-01-02-03-04-05-06-07-08-09-0a-0b-0c-0d-";
+    /** 14 DOTS at the same distance from 15, 15: all of their threes have one CIRCLE. */
+    static final String ROUND_ABOUT = "31x31:ng-ne-7g-7e-mj-mb-8j-8b-gn-en-g7-e7-jm-bm-";
+    /** By SHRINKING_BOUNDS six RINGS are KEPT, and three of them given up by SPLIT. */
+    static final String SHRINKING = "15x21:8g5611e533j-e11ae59d068-9b7cj3bh3ai-d62ad7";
+    static final int[] SHRINKING_BOUNDS = {1, 22, 1, 2, 1};
     private static final String SIGNS = "0123456789abcdefghijklmnopqrstu";
 
     private Sheets() {
@@ -41,6 +46,14 @@ final class Sheets {
             }
         }
         return x;
+    }
+
+    /** DOTS at the four corners u, v (doubled, odd) of a CENTRE, each turned across to it. */
+    static void four(ArcRings x, int cx, int cy, int u, int v) {
+        int[][] corners = {{1, 1}, {-1, 1}, {-1, -1}, {1, -1}};
+        for (int[] corner : corners) {
+            x.dot((2 * cx + 1 + corner[0] * u) / 2, (2 * cy + 1 + corner[1] * v) / 2, corner[0] > 0 ? 4 : 0);
+        }
     }
 
     static String textOf(ArcRings x) {

@@ -38,6 +38,11 @@ public final class SplitTest {
         "21x24:9a4cc60g1012334491442596ig5fj68b6b74gj4155 1 22 0 2 1 7 7",
         "22x27:eo2i60k74fd2h63g77di0h41gj61i0i77dq0dg1hq4 1 22 0 2 1 7 7",
         "26x13:g86ob4d24gc6h755b7e845a6d97d53j44f61f93k75 1 22 0 2 1 7 7",
+        // seven are KEPT, one of them given up: the first, or one amid
+        "24x22:c81da4e733c1ki5ff4nf46d7di42338d27c2gb55e2 1 22 0 2 1 7 6",
+        "20x24:c42jb5675203712a33i91j12hb0945e015b69i73l0 1 22 0 2 1 7 6",
+        "26x11:p75ka3i53h10b02l03742c94k93f10964o02e304a7 1 22 0 2 1 7 6",
+        "12x12:675751812694403b53372290b32914581683210110 1 22 0 2 1 7 6",
         // of two with too few the one with fewest goes first, though its number is the lesser one
         "31x9:o56j63i23680h14c1-s0-31-q1-23-n14351n35824 1 9 3 3 2 4 3",
         "24x12:k53556n5-e51246d20c4-00-hb5677f93h147b6h01 1 14 4 3 1 4 3",
