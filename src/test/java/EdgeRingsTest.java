@@ -57,7 +57,29 @@ public final class EdgeRingsTest {
         return Sheets.of(Sheets.WHOLE.substring(0, 6 + 3 * many), bounds);
     }
 
+    /** What the slow model says of such a SHEET, so that no answer is due only because the class gave it. */
+    private static String modelRings(String text, int[] bounds, boolean split) {
+        Model model = new Model();
+        for (char letter : text.toCharArray()) {
+            model.letter(letter);
+        }
+        model.sheet();
+        model.bound(1, 22);
+        for (int what = 0; what < bounds.length; what++) {
+            model.bound(what, bounds[what]);
+        }
+        model.hunt();
+        int many = split ? model.split() : model.count(1);
+        StringBuilder all = new StringBuilder();
+        for (int i = 0; i < many; i++) {
+            all.append(model.ring(i, 0)).append(',').append(model.ring(i, 1)).append(',').append(model.ring(i, 2));
+            all.append(':').append(model.ring(i, 4)).append(' ');
+        }
+        return all.toString().trim();
+    }
+
     private void ringsDue(String text, int[] bounds, String want) {
+        checks.same("RINGS by the model, " + text, want, modelRings(text, bounds, false));
         ArcRings x = Sheets.of(text, bounds);
         int many = want.isEmpty() ? 0 : want.split(" ").length;
         checks.due("hunt() of " + text, many, x.hunt());
@@ -65,6 +87,8 @@ public final class EdgeRingsTest {
     }
 
     private void splitDue(String text, int[] bounds, String kept, String left) {
+        checks.same("KEPT by the model, " + text, kept, modelRings(text, bounds, false));
+        checks.same("left by the model, " + text, left, modelRings(text, bounds, true));
         ArcRings x = Sheets.of(text, bounds);
         int many = kept.split(" ").length;
         int then = left.split(" ").length;
