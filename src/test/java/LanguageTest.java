@@ -29,6 +29,10 @@ public final class LanguageTest {
         "\\bRandom\\b", "Exact\\b", "\\bstatic\\s*\\{", "\\bgoto\\b", "\\bvolatile\\b", "\\bnative\\b",
     };
 
+    /** What of the library the program uses; all of it stands in LANGUAGE.md. */
+    private static final String LIBRARY = "Math\\.(abs|floorDiv|max|min)|Integer\\.bitCount";
+    private static final int LONGEST_METHOD = 60;
+
     private final Checks checks = new Checks();
 
     public static void main(String[] args) throws IOException {
@@ -36,7 +40,10 @@ public final class LanguageTest {
         test.face();
         test.constants();
         test.nestedClasses();
-        test.words();
+        test.words(test.code());
+        test.library(test.code());
+        test.methodLengths(test.code());
+        test.objectsMade(test.code());
         test.checks.end();
     }
 
@@ -105,19 +112,55 @@ public final class LanguageTest {
         }
     }
 
-    private void words() throws IOException {
+    /** The program without its comments and signs. */
+    private String code() throws IOException {
         byte[] bytes = Files.readAllBytes(Path.of("src/main/java/ArcRings.java"));
+        boolean plain = true;
         for (byte each : bytes) {
-            if (each <= 0) {
-                checks.holds("every sign is 1 to 127", false);
-                break;
-            }
+            plain &= each > 0;
         }
-        String code = new String(bytes, StandardCharsets.US_ASCII)
+        checks.holds("every sign is 1 to 127", plain);
+        return new String(bytes, StandardCharsets.US_ASCII)
             .replaceAll("(?s)/\\*.*?\\*/", " ").replaceAll("//[^\n]*", " ").replaceAll("'(\\\\.|[^'\\\\])'", "'0'");
+    }
+
+    private void words(String code) {
         for (String each : RULED_OUT) {
             Matcher found = Pattern.compile(each).matcher(code);
             checks.holds("the program has no " + each, !found.find());
+        }
+    }
+
+    /** A name that begins with a great letter and has a point behind it is a class of the library. */
+    private void library(String code) {
+        Matcher used = Pattern.compile("\\b[A-Z][a-z]\\w*\\.\\w+").matcher(code);
+        while (used.find()) {
+            checks.holds("LANGUAGE.md has " + used.group(), used.group().matches(LIBRARY));
+        }
+    }
+
+    /** A method of the class begins four signs in, one of a class inside it eight; its end stands as far in. */
+    private void methodLengths(String code) {
+        Matcher method = Pattern.compile("(?m)^( {4}| {8})(?! )[^\n;=]*\\)[^\n;=]* \\{\n(?s:.*?)\n\\1\\}$").matcher(code);
+        int found = 0;
+        while (method.find()) {
+            int lines = method.group().split("\n").length;
+            checks.holds("a method has " + lines + " lines: " + method.group().split("\n")[0], lines <= LONGEST_METHOD);
+            found++;
+        }
+        checks.holds("methods were found", found > 24);
+    }
+
+    /** README.md says that no call makes an object: each is made by a field or by the constructor. */
+    private void objectsMade(String code) {
+        int from = code.indexOf("public ArcRings() {");
+        int to = code.indexOf("}", from);
+        checks.holds("the constructor was found", from >= 0 && to > from);
+        Matcher made = Pattern.compile("(?m)^.*\\bnew\\b.*$").matcher(code);
+        while (made.find()) {
+            boolean byConstructor = made.start() > from && made.start() < to;
+            checks.holds("made by a field or the constructor: " + made.group().trim(),
+                byConstructor || made.group().trim().startsWith("final "));
         }
     }
 
